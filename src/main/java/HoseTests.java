@@ -361,7 +361,7 @@ public final class HoseTests {
         if (!isWithin(what, 0, TRUCK_LOOKS - 1)) {
             throw new IllegalArgumentException("what is not 0 to 6");
         }
-        now.layLine(truck, NONE);
+        boolean whole = now.layLine(truck, NONE);
         switch (what) {
             case 0: return now.wanted[truck];
             case 1: return now.line.metres;
@@ -369,7 +369,7 @@ public final class HoseTests {
             case 3: return now.readyHosesAt(truck);
             case 4: return now.line.adaptersUsed;
             case 5: return now.line.mask;
-            default: return now.isWhole(truck) ? 1 : 0;
+            default: return whole ? 1 : 0;
         }
     }
 
@@ -463,7 +463,7 @@ public final class HoseTests {
      */
     public int helps(int truck) throws IndexOutOfBoundsException {
         requireTruck(truck);
-        return now.isWhole(truck) ? NONE : now.cheapestHelp(truck);
+        return now.cheapestHelp(truck);
     }
 
     /**
@@ -493,10 +493,17 @@ public final class HoseTests {
             hash = mixed(hash, now.settings[i]);
         }
         for (int h = 0; h < now.hoses; h++) {
-            hash = withHose(hash, h);
+            for (int what = 0; what < HOSE_LOOKS; what++) {
+                hash = mixed(hash, hose(h, what));
+            }
+            hash = mixed(hash, ifTested(h, DIGEST_PRESSURE));
+            hash = mixed(hash, safe(h));
         }
         for (int t = 0; t < TRUCKS; t++) {
-            hash = withTruck(hash, t);
+            for (int what = 0; what < TRUCK_LOOKS; what++) {
+                hash = mixed(hash, truck(t, what));
+            }
+            hash = mixed(hash, helps(t));
         }
         hash = mixed(hash, nextLapse());
         hash = mixed(hash, bitsOfShare(readyShare()));
@@ -591,23 +598,6 @@ public final class HoseTests {
 
     private static long mixed(long hash, long value) {
         return 31L * hash + value;
-    }
-
-    private long withHose(long hash, int hose) {
-        long result = hash;
-        for (int what = 0; what < HOSE_LOOKS; what++) {
-            result = mixed(result, hose(hose, what));
-        }
-        result = mixed(result, ifTested(hose, DIGEST_PRESSURE));
-        return mixed(result, safe(hose));
-    }
-
-    private long withTruck(long hash, int truck) {
-        long result = hash;
-        for (int what = 0; what < TRUCK_LOOKS; what++) {
-            result = mixed(result, truck(truck, what));
-        }
-        return mixed(result, helps(truck));
     }
 
     /** The bits by hand, as the language's rules leave no Double; a share is 0 or from 1/14 to 1. */
@@ -769,14 +759,10 @@ public final class HoseTests {
             if (isLent(hose)) {
                 return IS_LENT;
             }
-            if (day > lastDayOfLife(hose)) {
+            if (day - made[hose] > Kinds.lifeOf(kind[hose])) {
                 return IS_TOO_OLD;
             }
             return lastTestDay[hose] == NONE || day > lastTestDay[hose] ? IS_UNTESTED : READY;
-        }
-
-        int lastDayOfLife(int hose) {
-            return made[hose] + Kinds.lifeOf(kind[hose]);
         }
 
         int strengthAt(int hose, int worn) {
@@ -791,7 +777,7 @@ public final class HoseTests {
             return hoses < MAX_HOSES && Kinds.costOf(ofKind, ofLength) <= money;
         }
 
-        /** Only behind canBuy. */
+        /** Only behind canBuy, which tells that there is a row for it. */
         int addHose(int ofKind, int ofLength, int ofCoupling, int atPlace) {
             int hose = hoses;
             kind[hose] = ofKind;
@@ -924,29 +910,21 @@ public final class HoseTests {
             return found;
         }
 
-        /** Lays the line of a truck as it would be with one hose more on it; NONE for as it is. */
-        void layLine(int truck, int more) {
+        /** Lays the line as it would be with one hose more on the truck (NONE: as it is); tells if it is whole then. */
+        boolean layLine(int truck, int more) {
             line.begin();
             for (int h = 0; h < hoses; h++) {
                 if ((place[h] == truck || h == more) && isReady(h)) {
                     line.join(h, length[h], coupling[h], settings[ADAPTERS]);
                 }
             }
-        }
-
-        boolean isWhole(int truck) {
-            return isWholeWith(truck, NONE);
-        }
-
-        private boolean isWholeWith(int truck, int more) {
-            layLine(truck, more);
             return line.metres >= wanted[truck];
         }
 
         int wholeTrucks() {
             int found = 0;
             for (int t = 0; t < TRUCKS; t++) {
-                if (isWhole(t)) {
+                if (layLine(t, NONE)) {
                     found++;
                 }
             }
@@ -954,10 +932,13 @@ public final class HoseTests {
         }
 
         int cheapestHelp(int truck) {
+            if (layLine(truck, NONE)) {
+                return NONE;
+            }
             int best = NONE;
             int bestPrice = 0;
             for (int h = 0; h < hoses; h++) {
-                boolean makesWhole = place[h] == STORE && isReady(h) && isWholeWith(truck, h);
+                boolean makesWhole = place[h] == STORE && isReady(h) && layLine(truck, h);
                 if (makesWhole && (best == NONE || priceOf(h) < bestPrice)) {
                     best = h;
                     bestPrice = priceOf(h);
@@ -970,7 +951,8 @@ public final class HoseTests {
             int first = NONE;
             for (int h = 0; h < hoses; h++) {
                 if (isReady(h)) {
-                    int days = Math.min(lastTestDay[h], lastDayOfLife(h)) + 1 - day;
+                    int lastReadyDay = Math.min(lastTestDay[h], made[h] + Kinds.lifeOf(kind[h]));
+                    int days = lastReadyDay + 1 - day;
                     first = first == NONE ? days : Math.min(first, days);
                 }
             }

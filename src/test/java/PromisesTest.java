@@ -434,10 +434,12 @@ public final class PromisesTest {
         x.put(2, 1);
         ready(x, LINEN, 5, 0, 2);
         x.lend(3, 10);
+        ready(x, LINEN, 5, 0, 2);
         Check.same("pass", x.pass(9), 9);
         Check.same("no wear before the day 10", x.hose(0, 4), 3);
         Check.same("pass", x.pass(1), 10);
         Check.same("wear of a ready one on a truck", x.hose(0, 4), 4);
+        Check.same("wear of a ready one on the last truck", x.hose(4, 4), 4);
         Check.same("wear in the store", x.hose(1, 4), 3);
         Check.same("wear of one that is not ready", x.hose(2, 4), 0);
         Check.same("wear of one that came back", x.hose(3, 4), 3);
@@ -610,6 +612,10 @@ public final class PromisesTest {
         Check.same("buyAll of none", x.buyAll(), 0);
         Check.same("the buffer is clear", x.clearBuffer(), 0);
         Check.same("saved states", x.count(10), 2);
+        HoseTests longest = rich();
+        type(longest, "n10a,n11a,n12a,n13a,n14a,n15a,n16a,n17a,n18a,n5a,n6a,n7a,l9c");
+        Check.same("buyAll of 60 characters", longest.buyAll(), 13);
+        hoseIs(longest, 12, LINED, 9, 2, 1000, 0, 24, NONE, STORE, NONE, 4);
         HoseTests full = new HoseTests();
         type(full, "n5a,n6a,n7a,n5a,n5a,n5a,n5a,n5a,n5a,n5a,n5a,n5a,n5a,n5a,n5a");
         Check.same("buyAll up to 14", full.buyAll(), 14);
@@ -683,6 +689,9 @@ public final class PromisesTest {
         x.undo();
         Check.same("place", x.hose(0, 7), STORE);
         Check.same("day of its return", x.hose(0, 8), NONE);
+        Check.same("saved states behind undo of lend", x.count(10), 2);
+        x.undo();
+        hoseIs(x, 0, RUBBER, 5, 0, 0, 0, 20, NONE, STORE, NONE, 4);
     }
 
     private static void promise14WhatSavesAState() {
@@ -698,6 +707,9 @@ public final class PromisesTest {
         Check.same("append does not save", x.count(10), 4);
         x.buyAll();
         Check.same("buyAll saves", x.count(10), 5);
+        x.test(0, 12);
+        Check.same("test saves", x.count(10), 6);
+        x.undo();
         x.clearBuffer();
         x.firstError();
         x.ifTested(0, 12);
@@ -809,6 +821,13 @@ public final class PromisesTest {
             Check.same("too old and not in force", x.hose(0, 9), 3);
             x.renew(0);
             Check.same("gone and too old", x.hose(0, 9), 1);
+            x.test(1, 4);
+            passAll(x, lives[kind] - 5);
+            x.test(1, 4);
+            x.pass(5);
+            Check.same("at the end of its life", x.hose(1, 9), 0);
+            x.pass(1);
+            Check.same("behind the end of its life", x.hose(1, 9), 3);
         }
         int[] inForce = {100, 150, 200};
         for (int kind = 0; kind < 3; kind++) {
@@ -1109,6 +1128,10 @@ public final class PromisesTest {
         x.pass(6);
         digestIsDue(x, "l5~");
         x.undo();
+        digestIsDue(x, "l5~");
+        passAll(x, 405);
+        Check.same("strength", x.hose(1, 5), 11);
+        Check.same("held of 12 by 11", x.ifTested(1, 12), 102);
         digestIsDue(x, "l5~");
         Check.same("digest changes nothing", x.digest(), x.digest());
     }
