@@ -7,8 +7,14 @@ final class Check {
 
     private static int made = 0;
     private static int wrong = 0;
+    private static String place = "";
 
     private Check() {
+    }
+
+    /** What is reported from now on begins with this. */
+    static void under(String text) {
+        place = text;
     }
 
     static void same(String what, long got, long due) {
@@ -52,7 +58,7 @@ final class Check {
 
     static void report(String text) {
         wrong++;
-        System.out.println(text);
+        System.out.println(place + text);
     }
 
     static void end(String name) {

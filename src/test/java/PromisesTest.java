@@ -1,19 +1,5 @@
 /** At least one test for each promise: ordinary inputs, the edges that the document names, and wrong inputs. */
-public final class PromisesTest {
-
-    private static final int NONE = HoseTests.NONE;
-    private static final int STORE = 3;
-    private static final int LENT = 4;
-
-    private static final int LINEN = 0;
-    private static final int RUBBER = 1;
-    private static final int LINED = 2;
-
-    private static final Class<IllegalArgumentException> ARGUMENT = IllegalArgumentException.class;
-    private static final Class<IllegalStateException> STATE = IllegalStateException.class;
-    private static final Class<IndexOutOfBoundsException> INDEX = IndexOutOfBoundsException.class;
-
-    private static final int[] FAR = {Integer.MIN_VALUE, -1000, 1000, Integer.MAX_VALUE};
+public final class PromisesTest extends Scene {
 
     public static void main(String[] args) {
         promise01NewObject();
@@ -48,65 +34,6 @@ public final class PromisesTest {
         promise23ReadyShare();
         promise24Digest();
         Check.end("PromisesTest");
-    }
-
-    // ---- what the tests use
-
-    private static HoseTests atDay(int day) {
-        HoseTests x = new HoseTests();
-        passAll(x, day);
-        return x;
-    }
-
-    private static void passAll(HoseTests x, int days) {
-        for (int left = days; left > 0; left -= 100) {
-            x.pass(Math.min(left, 100));
-        }
-    }
-
-    /** A station with 6800 of money, on the day 1000. */
-    private static HoseTests rich() {
-        HoseTests x = new HoseTests();
-        x.set(2, 200);
-        passAll(x, 1000);
-        return x;
-    }
-
-    private static int ready(HoseTests x, int kind, int length, int coupling, int place) {
-        int h = x.buy(kind, length, coupling);
-        x.test(h, 12);
-        x.put(h, place);
-        return h;
-    }
-
-    private static void type(HoseTests x, String text) {
-        for (int i = 0; i < text.length(); i++) {
-            x.append(text.charAt(i));
-        }
-    }
-
-    private static void hoseIs(HoseTests x, int h, int... due) {
-        for (int what = 0; what < due.length; what++) {
-            Check.same("hose(" + h + ", " + what + ")", x.hose(h, what), due[what]);
-        }
-    }
-
-    private static void truckIs(HoseTests x, int t, int... due) {
-        for (int what = 0; what < due.length; what++) {
-            Check.same("truck(" + t + ", " + what + ")", x.truck(t, what), due[what]);
-        }
-    }
-
-    private static void countsAre(HoseTests x, int... due) {
-        for (int what = 0; what < due.length; what++) {
-            Check.same("count(" + what + ")", x.count(what), due[what]);
-        }
-    }
-
-    private static void wearBy(HoseTests x, int h, int times) {
-        for (int i = 0; i < times; i++) {
-            x.test(h, 4);
-        }
     }
 
     // ---- the promises
@@ -1134,35 +1061,5 @@ public final class PromisesTest {
         Check.same("held of 12 by 11", x.ifTested(1, 12), 102);
         digestIsDue(x, "l5~");
         Check.same("digest changes nothing", x.digest(), x.digest());
-    }
-
-    private static void digestIsDue(HoseTests x, String buffer) {
-        long hash = 3271;
-        for (int what = 0; what <= 10; what++) {
-            hash = 31 * hash + x.count(what);
-        }
-        for (int s = 0; s < 3; s++) {
-            hash = 31 * hash + x.setting(s);
-        }
-        for (int h = 0; h < x.count(2); h++) {
-            for (int what = 0; what <= 9; what++) {
-                hash = 31 * hash + x.hose(h, what);
-            }
-            hash = 31 * hash + x.ifTested(h, 12);
-            hash = 31 * hash + x.safe(h);
-        }
-        for (int t = 0; t < 3; t++) {
-            for (int what = 0; what <= 6; what++) {
-                hash = 31 * hash + x.truck(t, what);
-            }
-            hash = 31 * hash + x.helps(t);
-        }
-        hash = 31 * hash + x.nextLapse();
-        hash = 31 * hash + Double.doubleToLongBits(x.readyShare());
-        hash = 31 * hash + buffer.length();
-        for (int i = 0; i < buffer.length(); i++) {
-            hash = 31 * hash + buffer.charAt(i);
-        }
-        Check.same("digest", x.digest(), hash);
     }
 }
