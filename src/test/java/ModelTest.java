@@ -12,7 +12,9 @@ import java.util.regex.Pattern;
  */
 public final class ModelTest {
 
-    private static final int RUNS = 400;
+    private static final int RUNS = 600;
+
+    /** What an object is used for: all its calls, the digests, too. */
     private static final int CALLS = 512;
 
     public static void main(String[] args) {
@@ -22,20 +24,27 @@ public final class ModelTest {
         Check.end("ModelTest");
     }
 
+    /** Half of the runs look at all behind each call; the others look seldom, and so come further. */
     private static void run(int seed) {
         Random random = new Random(seed);
         HoseTests x = new HoseTests();
         Model model = new Model();
-        for (int i = 0; i < CALLS; i++) {
+        int callsToALook = seed % 2 == 0 ? 1 : 16;
+        int sinceALook = 0;
+        for (int n = 1; n <= CALLS; n++) {
+            if (sinceALook == callsToALook || n == CALLS) {
+                Check.same("seed " + seed + ", call " + n + ", digest", x.digest(), model.digest());
+                sinceALook = 0;
+                continue;
+            }
             int[] call = randomCall(random, model);
             long got = answer(() -> onObject(x, call));
             long due = answer(() -> onModel(model, call));
-            String what = "seed " + seed + ", call " + i + " " + List.of(call[0], call[1], call[2], call[3]);
-            Check.same(what, got, due);
-            Check.same("digest behind " + what, x.digest(), model.digest());
+            Check.same("seed " + seed + ", call " + n + " " + List.of(call[0], call[1], call[2], call[3]), got, due);
             if (got != due) {
                 return;
             }
+            sinceALook++;
         }
     }
 
@@ -72,8 +81,8 @@ public final class ModelTest {
             case 16: return call(6, 0, near(random, 4, 24), 0);
             case 17: return call(6, 1, near(random, 0, 5), 0);
             case 18: return call(6, random.nextBoolean() ? 2 : near(random, 0, 2), near(random, 0, 200), 0);
-            case 19: case 20: return call(7, near(random, 1, 30), 0, 0);
-            case 21: return call(7, near(random, 1, 100), 0, 0);
+            case 19: return call(7, near(random, 1, 30), 0, 0);
+            case 20: case 21: return call(7, near(random, 1, 100), 0, 0);
             case 22: case 23: case 24: case 25: case 26: case 27: case 28: case 29:
                 return call(8, random.nextInt(30) == 0 ? near(random, 33, 126) : likelyCode(random, model), 0, 0);
             case 30: return call(random.nextInt(4) == 0 ? 9 : 10, 0, 0, 0);
@@ -84,7 +93,7 @@ public final class ModelTest {
             case 36: return call(15, near(random, 0, 10), 0, 0);
             case 37: return call(16, near(random, 0, 2), 0, 0);
             case 38: return call(17, hose, near(random, 4, 24), 0);
-            default: return call(18 + random.nextInt(2), random.nextBoolean() ? hose : near(random, 0, 2), 0, 0);
+            default: return call(18 + random.nextInt(4), random.nextBoolean() ? hose : near(random, 0, 2), 0, 0);
         }
     }
 
@@ -141,7 +150,9 @@ public final class ModelTest {
             case 16: return x.setting(c[1]);
             case 17: return x.ifTested(c[1], c[2]);
             case 18: return x.safe(c[1]);
-            default: return x.helps(c[1]);
+            case 19: return x.helps(c[1]);
+            case 20: return x.nextLapse();
+            default: return Double.doubleToLongBits(x.readyShare());
         }
     }
 
@@ -166,7 +177,9 @@ public final class ModelTest {
             case 16: return m.setting(c[1]);
             case 17: return m.ifTested(c[1], c[2]);
             case 18: return m.safe(c[1]);
-            default: return m.helps(c[1]);
+            case 19: return m.helps(c[1]);
+            case 20: return m.nextLapse();
+            default: return Double.doubleToLongBits(m.readyShare());
         }
     }
 

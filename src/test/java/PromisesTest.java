@@ -1029,37 +1029,49 @@ public final class PromisesTest extends Scene {
         Check.sameShare("all are gone", gone.readyShare(), 1.0);
     }
 
+    /** A digest by single looks takes up to 220 calls of an object, so most moments have an object of their own. */
     private static void promise24Digest() {
         HoseTests x = new HoseTests();
         digestIsDue(x, "");
         type(x, "n20a,r15b,x");
         digestIsDue(x, "n20a,r15b,x");
-        x.clearBuffer();
+        for (int hoses = 1; hoses <= 14; hoses++) {
+            digestIsDue(fleet(hoses), "");
+        }
+        int[] days = {0, 95, 101, 500};
+        for (int d : days) {
+            digestIsDue(fleetBehind(d), "l5~");
+        }
+        HoseTests undone = fleetBehind(95);
+        undone.pass(6);
+        undone.undo();
+        digestIsDue(undone, "l5~");
+        HoseTests old = fleetBehind(500);
+        Check.same("strength", old.hose(1, 5), 11);
+        Check.same("held of 12 by 11", old.ifTested(1, 12), 102);
+        Check.same("digest changes nothing", old.digest(), old.digest());
+    }
+
+    private static HoseTests fleet(int hoses) {
+        HoseTests x = new HoseTests();
         x.set(1, 3);
-        for (int h = 0; h < 14; h++) {
+        for (int h = 0; h < hoses; h++) {
             x.buy(LINEN, 5 + h % 2, h % 3);
-            digestIsDue(x, "");
             if (h % 4 != 1) {
                 x.test(h, 12);
                 x.put(h, h % 4);
             }
-            digestIsDue(x, "");
         }
+        return x;
+    }
+
+    private static HoseTests fleetBehind(int days) {
+        HoseTests x = fleet(14);
         x.lend(0, 20);
         x.test(4, 24);
         x.want(0, 9);
         type(x, "l5~");
-        digestIsDue(x, "l5~");
-        passAll(x, 95);
-        digestIsDue(x, "l5~");
-        x.pass(6);
-        digestIsDue(x, "l5~");
-        x.undo();
-        digestIsDue(x, "l5~");
-        passAll(x, 405);
-        Check.same("strength", x.hose(1, 5), 11);
-        Check.same("held of 12 by 11", x.ifTested(1, 12), 102);
-        digestIsDue(x, "l5~");
-        Check.same("digest changes nothing", x.digest(), x.digest());
+        passAll(x, days);
+        return x;
     }
 }

@@ -1,8 +1,11 @@
 import java.io.IOException;
+import java.lang.reflect.Executable;
 import java.lang.reflect.Field;
 import java.lang.reflect.Modifier;
 import java.nio.file.Files;
 import java.nio.file.Path;
+import java.util.ArrayList;
+import java.util.List;
 import java.util.regex.Matcher;
 import java.util.regex.Pattern;
 
@@ -19,6 +22,9 @@ public final class RulesTest {
     };
 
     private static final int LONGEST_METHOD = 60;
+    private static final int MOST_PARAMETERS = 7;
+    private static final int MOST_CLASSES = 12;
+    private static final int MOST_FIELDS = 20;
 
     public static void main(String[] args) throws IOException {
         String text = Files.readString(SOURCE);
@@ -31,6 +37,7 @@ public final class RulesTest {
         onlyWrittenExceptions(code);
         methodsStayShort(code);
         staticFieldsAreFinal();
+        classesStaySmall();
         Check.end("RulesTest");
     }
 
@@ -65,11 +72,33 @@ public final class RulesTest {
         }
     }
 
+    private static List<Class<?>> classes() {
+        List<Class<?>> all = new ArrayList<>(List.of(HoseTests.class.getDeclaredClasses()));
+        all.add(HoseTests.class);
+        return all;
+    }
+
     private static void staticFieldsAreFinal() {
-        for (Class<?> c : HoseTests.class.getDeclaredClasses()) {
+        for (Class<?> c : classes()) {
             for (Field f : c.getDeclaredFields()) {
                 int marks = f.getModifiers();
                 Check.isTrue(f + " is final if it is static", !Modifier.isStatic(marks) || Modifier.isFinal(marks));
+            }
+        }
+    }
+
+    private static void classesStaySmall() {
+        Check.isTrue("the classes are few", classes().size() <= MOST_CLASSES);
+        for (Class<?> c : classes()) {
+            int fields = 0;
+            for (Field f : c.getDeclaredFields()) {
+                fields += Modifier.isStatic(f.getModifiers()) ? 0 : 1;
+            }
+            Check.isTrue(c + " has few fields", fields <= MOST_FIELDS);
+            List<Executable> parts = new ArrayList<>(List.of(c.getDeclaredMethods()));
+            parts.addAll(List.of(c.getDeclaredConstructors()));
+            for (Executable part : parts) {
+                Check.isTrue(part + " has few parameters", part.getParameterCount() <= MOST_PARAMETERS);
             }
         }
     }
